@@ -1,0 +1,107 @@
+/** Offices for the tests, each made anew by the same calls. */
+final class Offices {
+    private Offices() {
+    }
+
+    /** Area 0 needs 2 signatures and 500, area 1 needs 1 and nothing; voters 0 to 3 are in area 0, 4 and 5 in area 1. */
+    static Nominator twoAreas() {
+        Nominator office = new Nominator();
+        office.addArea(2, 500);
+        office.addArea(1, 0);
+        addVoters(office, 0, 4);
+        addVoters(office, 1, 2);
+        return office;
+    }
+
+    /** In area 0 the papers 0 (party 1), 1 (party 2) and 2 (independent), in area 1 the paper 3 (party 1). */
+    static Nominator fourPapers() {
+        Nominator office = twoAreas();
+        file(office, 0, 1, "abel");
+        file(office, 0, 2, "bo");
+        file(office, 0, Nominator.INDEPENDENT, "cy");
+        file(office, 1, 1, "dee");
+        return office;
+    }
+
+    /** The paper 0 is acceptable, the paper 1 lacks signatures, the paper 2 lacks money, the paper 3 is acceptable. */
+    static Nominator readyToClose() {
+        Nominator office = fourPapers();
+        office.pay(0, 500);
+        office.pay(1, 500);
+        office.pay(2, 499);
+        office.sign(0, 0);
+        office.sign(0, 1);
+        office.sign(2, 2);
+        office.sign(2, 3);
+        office.sign(3, 4);
+        return office;
+    }
+
+    /** The papers 0 and 3 are accepted, the papers 1 and 2 are rejected; the present day is 21. */
+    static Nominator closed() {
+        return later(readyToClose(), 21);
+    }
+
+    /** The day after the last one for changes. */
+    static Nominator afterChanges() {
+        return later(closed(), 5);
+    }
+
+    static Nominator pollingDay() {
+        return later(closed(), 19);
+    }
+
+    static Nominator later(Nominator office, int days) {
+        office.pass(days);
+        return office;
+    }
+
+    static Nominator withdrawn(Nominator office, int paper) {
+        office.withdraw(paper);
+        return office;
+    }
+
+    static Nominator dead(Nominator office, int paper) {
+        office.die(paper);
+        return office;
+    }
+
+    static Nominator drawn(Nominator office, int seed) {
+        office.draw(seed);
+        return office;
+    }
+
+    static Nominator finished(Nominator office, int area) {
+        office.finish(area);
+        return office;
+    }
+
+    static void addVoters(Nominator office, int area, int count) {
+        for (int k = 0; k < count; k++) {
+            office.addVoter(area);
+        }
+    }
+
+    static int file(Nominator office, int area, int party, String name) {
+        String full = padded(name);
+        return office.file(area, party, full.charAt(0), full.charAt(1), full.charAt(2), full.charAt(3));
+    }
+
+    static int replace(Nominator office, int paper, String name) {
+        String full = padded(name);
+        return office.replace(paper, full.charAt(0), full.charAt(1), full.charAt(2), full.charAt(3));
+    }
+
+    static String nameOf(Nominator office, int paper) {
+        StringBuilder name = new StringBuilder();
+        for (int k = 0; k < 4; k++) {
+            name.append(office.surname(paper, k));
+        }
+        return name.toString();
+    }
+
+    /** A name that is shorter than four characters, with blanks behind it. */
+    private static String padded(String name) {
+        return (name + "    ").substring(0, 4);
+    }
+}
