@@ -12,6 +12,7 @@ public final class BallotsTest {
         draw();
         letter();
         orderOfNames();
+        orderOfLastLetters();
         orderWithEverySeed();
         ballot();
         ballotFollowsWhoStands();
@@ -21,9 +22,12 @@ public final class BallotsTest {
 
     /** Six papers that stand in area 0 after the close, some with the same name or the same beginning. */
     static Nominator sixNames() {
+        return standing("bob", "abc", "ab", "bob", "abcd", "z");
+    }
+
+    private static Nominator standing(String... names) {
         Nominator office = new Nominator();
         office.addArea(1, 0);
-        String[] names = {"bob", "abc", "ab", "bob", "abcd", "z"};
         for (int k = 0; k < names.length; k++) {
             office.addVoter(0);
             Offices.file(office, 0, k, names[k]);
@@ -90,6 +94,18 @@ public final class BallotsTest {
         Check.same("the order for the seed 7", known, true);
         Check.same("names by their letters, blanks first, then numbers", listOf(Offices.drawn(sixNames(), 7), 0),
                 "214503");
+    }
+
+    /** The first and the last letters of the order, where a mistake in one character reaches the one before it. */
+    private static void orderOfLastLetters() {
+        String order = orderOf(7);
+        String first = order.substring(0, 1);
+        String second = order.substring(1, 2);
+        String last = order.substring(25);
+        Nominator office = Offices.drawn(standing(second, first + last, last + last + last + last, first), 7);
+        Check.same("a first letter goes before all others", listOf(office, 0), "3102");
+        office = Offices.drawn(standing(first + second, first + first + last + last, first + first + last), 7);
+        Check.same("a second letter goes before all others", listOf(office, 0), "210");
     }
 
     private static void orderWithEverySeed() {

@@ -53,10 +53,18 @@ public final class CalendarTest {
                 o -> o.setCalendar(3, 5, 9));
         Check.refuses(Offices::fourPapers, "setCalendar after a paper, day out of range", range,
                 o -> o.setCalendar(3, 2, 9));
+        Check.refuses(CalendarTest::onePaper, "setCalendar after one paper", IllegalStateException.class,
+                o -> o.setCalendar(3, 5, 9));
         Nominator office = new Nominator();
         Check.same("a refused setCalendar", Check.outcomeOf(() -> office.setCalendar(9, 9, 9)),
                 "IllegalArgumentException");
         Check.same("setCalendar after a refused one", office.setCalendar(1, 2, 3), 40);
+    }
+
+    private static Nominator onePaper() {
+        Nominator office = Offices.twoAreas();
+        Offices.file(office, 0, 1, "a");
+        return office;
     }
 
     private static void pass() {

@@ -105,6 +105,9 @@ public final class DepositsTest {
         Check.asks(Offices::closed, "lostShare, nothing lost", 0f, o -> o.lostShare());
         Check.asks(() -> Offices.withdrawn(Offices.closed(), 0), "lostShare with returned deposits", 500f / 1499f,
                 o -> o.lostShare());
+        Nominator office = Offices.fourPapers();
+        office.pay(0, 5);
+        Check.same("lostShare, paid for the paper 0 alone", office.lostShare(), 0f);
         Check.refuses(Offices::fourPapers, "lostShare, nothing paid", ArithmeticException.class, o -> o.lostShare());
         Check.refuses(Nominator::new, "lostShare of a new office", ArithmeticException.class, o -> o.lostShare());
     }

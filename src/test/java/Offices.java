@@ -3,7 +3,7 @@ final class Offices {
     private Offices() {
     }
 
-    /** Area 0 needs 2 signatures and 500, area 1 needs 1 and nothing; voters 0 to 3 are in area 0, 4 and 5 in area 1. */
+    /** Area 0 needs 2 signatures and 500, area 1 one and nothing; voters 0 to 3 are in area 0, 4 and 5 in area 1. */
     static Nominator twoAreas() {
         Nominator office = new Nominator();
         office.addArea(2, 500);

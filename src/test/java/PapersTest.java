@@ -104,6 +104,11 @@ public final class PapersTest {
                 "IndexOutOfBoundsException");
         Check.same("signatures after signature 151", office.signatures(), 150);
         Check.same("wouldCount after 150 signatures", office.wouldCount(0, 1), true);
+        Check.same("gain after 150 signatures", office.gain(0, 1), 0);
+        Check.same("counted after 150 signatures", office.counted(0), 1);
+        Check.same("paperOf after 150 signatures", office.paperOf(0), 0);
+        Check.same("fewestWithdrawals after 150 signatures",
+                Check.outcomeOf(() -> office.fewestWithdrawals(0)), "NoSuchElementException");
     }
 
     private static void pay() {
@@ -143,6 +148,10 @@ public final class PapersTest {
         Check.same("counted of the third paper", office.counted(2), 1);
         Check.same("withdraw of a paper that blocks one", office.withdraw(1), 1);
         Check.same("withdraw of a paper that blocks none", office.withdraw(2), 0);
+        office = Offices.fourPapers();
+        office.sign(1, 0);
+        office.sign(0, 0);
+        Check.same("withdraw frees a signature of the paper 0", office.withdraw(1), 1);
         office = Offices.closed();
         Check.same("withdraw of an accepted paper", office.withdraw(0), 0);
         Check.same("counted after a late withdrawal", office.counted(0), 2);

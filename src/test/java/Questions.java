@@ -4,6 +4,8 @@ import java.util.concurrent.Callable;
 final class Questions {
     // An object is used for at most 512 calls, and the recipe of a test needs some of them.
     private static final int MOST_CALLS = 400;
+    private static final int MOST_AREAS = 5;
+    private static final int MOST_VOTERS = 40;
 
     private final Nominator office;
     private final StringBuilder text = new StringBuilder();
@@ -44,7 +46,7 @@ final class Questions {
     }
 
     private void askAreas() {
-        for (int k = 0; isThere(askArea(k)); k++) {
+        for (int k = 0; k < MOST_AREAS && isThere(askArea(k)); k++) {
             int area = k;
             ask(() -> office.winner(area));
             for (int n = 0; n < office.papers(); n++) {
@@ -59,7 +61,7 @@ final class Questions {
     }
 
     private void askVoters() {
-        for (int k = 0; isThere(askVoter(k)); k++) {
+        for (int k = 0; k < MOST_VOTERS && isThere(askVoter(k)); k++) {
             int voter = k;
             ask(() -> office.isOnRoll(voter));
             ask(() -> office.paperOf(voter));

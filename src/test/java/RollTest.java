@@ -85,6 +85,7 @@ public final class RollTest {
         Check.same("restore(5)", office.restore(5), 5);
         Check.same("isOnRoll after restore", office.isOnRoll(5), true);
         Check.same("restore(0)", office.restore(0), 6);
+        Check.same("strike of one of forty", fortyVoters().strike(39), 39);
         Check.refuses(Offices::twoAreas, "strike(6)", NOT_THERE, o -> o.strike(6));
         Check.refuses(Offices::twoAreas, "strike(-1)", NOT_THERE, o -> o.strike(-1));
         Check.refuses(RollTest::oneStruckOff, "strike twice", IllegalStateException.class, o -> o.strike(2));

@@ -17,6 +17,7 @@ public final class SignaturesTest {
         fewestWithdrawals();
         smallestSetOfSeveral();
         setsLeaveUselessPapersOut();
+        allOtherPapers();
         signatures();
         Check.end();
     }
@@ -244,6 +245,19 @@ public final class SignaturesTest {
         Check.same("one high paper", office.fewestWithdrawals(5), 1 << 11);
         office.strike(2);
         Check.same("the two lowest", office.fewestWithdrawals(5), 0b11);
+    }
+
+    private static void allOtherPapers() {
+        Nominator office = new Nominator();
+        office.addArea(1, 0);
+        office.addVoter(0);
+        for (int k = 0; k < 12; k++) {
+            Offices.file(office, 0, Nominator.INDEPENDENT, "a");
+            office.sign(k, 0);
+        }
+        Check.same("eleven papers block the last one", office.fewestWithdrawals(11), (1 << 11) - 1);
+        Check.same("no paper blocks the first one", office.fewestWithdrawals(0), 0);
+        Check.same("the withdrawal of one is not enough", office.gain(11, 0), 0);
     }
 
     private static void signatures() {

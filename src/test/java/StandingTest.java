@@ -75,14 +75,20 @@ public final class StandingTest {
         office.withdraw(2);
         due("the third after a withdrawal", office, 3, Nominator.STANDS);
         due("the fourth after a withdrawal", office, 4, Nominator.DOUBLE);
-        Nominator independents = new Nominator();
-        independents.addArea(1, 0);
-        Offices.addVoters(independents, 0, 2);
+        due("independents are no doubles", twoOf(Nominator.INDEPENDENT), 1, Nominator.STANDS);
+        due("the party 0 has doubles", twoOf(0), 1, Nominator.DOUBLE);
+        due("the party 7 has doubles", twoOf(7), 1, Nominator.DOUBLE);
+    }
+
+    private static Nominator twoOf(int party) {
+        Nominator office = new Nominator();
+        office.addArea(1, 0);
+        Offices.addVoters(office, 0, 2);
         for (int k = 0; k < 2; k++) {
-            Offices.file(independents, 0, Nominator.INDEPENDENT, "a");
-            independents.sign(k, k);
+            Offices.file(office, 0, party, "a");
+            office.sign(k, k);
         }
-        due("independents are no doubles", independents, 1, Nominator.STANDS);
+        return office;
     }
 
     private static void closedReasons() {
