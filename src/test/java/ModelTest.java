@@ -20,6 +20,9 @@ public final class ModelTest {
         "placeOnBallot", "addVotes", "finish", "votes", "share", "winner", "deposit", "paid", "sumHeld", "sumLost",
         "lostShare"};
 
+    private static final int[] WILD = {Integer.MAX_VALUE, Integer.MAX_VALUE - 1, Integer.MIN_VALUE,
+        Integer.MIN_VALUE + 1, -1, 31, 32, 64, 255, 256, 1 << 16, 1 << 30, -1 << 30, -32, -40};
+
     private final Random random;
     private final Nominator office = new Nominator();
     private final Model model = new Model();
@@ -55,7 +58,7 @@ public final class ModelTest {
     private boolean agrees(Map<String, Integer> seen) {
         for (int k = 0; k < CALLS; k++) {
             String name = nextName(k);
-            int[] given = argumentsOf(name);
+            int[] given = sometimesWild(argumentsOf(name));
             Object got = Check.outcomeOf(() -> call(name, given));
             Object due = Check.outcomeOf(() -> model.call(name, given));
             story.append(name).append(java.util.Arrays.toString(given)).append(" -> ").append(got).append('\n');
@@ -96,6 +99,14 @@ public final class ModelTest {
 
     private String one(String[] names) {
         return names[random.nextInt(names.length)];
+    }
+
+    /** Now and then one of the arguments is far away from all ranges, or next to where a sum would wrap around. */
+    private int[] sometimesWild(int[] given) {
+        if (random.nextInt(60) == 0) {
+            given[random.nextInt(given.length)] = WILD[random.nextInt(WILD.length)];
+        }
+        return given;
     }
 
     private int[] argumentsOf(String name) {

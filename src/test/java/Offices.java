@@ -51,8 +51,60 @@ final class Offices {
         return later(closed(), 19);
     }
 
+    /** The last day on which the office is open. */
+    static Nominator closingDay() {
+        return later(readyToClose(), 20);
+    }
+
+    /** The last day for changes, after the close. */
+    static Nominator lastDayForChanges() {
+        return later(closed(), 4);
+    }
+
+    static Nominator dayBeforePolling() {
+        return later(closed(), 18);
+    }
+
+    static Nominator lastDay() {
+        return later(later(pollingDay(), 30), 29);
+    }
+
+    /**
+     * With all that there can be, on day 0: 5 areas, of which the area k needs k + 1 signatures and 250 * k; 40 voters,
+     * the voter k in the area k % 5; 12 papers, the paper k in the area k % 5; and 150 signatures, all of them local.
+     * That takes 207 calls.
+     */
+    static Nominator full() {
+        Nominator office = new Nominator();
+        for (int k = 0; k < 5; k++) {
+            office.addArea(k + 1, 250 * k);
+        }
+        for (int k = 0; k < 40; k++) {
+            office.addVoter(k % 5);
+        }
+        for (int k = 0; k < 12; k++) {
+            file(office, k % 5, k % 9 - 1, "n" + (char) ('a' + k));
+        }
+        for (int k = 0; k < 150; k++) {
+            int paper = k % 12;
+            office.sign(paper, paper % 5 + 5 * (k / 12 % 8));
+        }
+        return office;
+    }
+
+    static Nominator closed(Nominator office) {
+        return later(office, 21 - office.day());
+    }
+
+    static Nominator pollingDay(Nominator office) {
+        return later(closed(office), 19);
+    }
+
+    /** At most 30 days pass at once. */
     static Nominator later(Nominator office, int days) {
-        office.pass(days);
+        for (int left = days; left > 0; left -= 30) {
+            office.pass(Math.min(left, 30));
+        }
         return office;
     }
 
