@@ -1,3 +1,5 @@
+import java.math.BigInteger;
+import java.util.Arrays;
 import java.util.NoSuchElementException;
 
 /** The edges of ballots: "Ballots" among the terms, and the promises 32 to 35. Each test tells its sentence. */
@@ -17,6 +19,8 @@ public final class BallotsEdgesTest {
         letterPlaces();
         lettersBeforeTheDraw();
         namesWithBlanks();
+        namesWithLettersNextToEachOther();
+        lettersAfterAllOtherEvents();
         namesThatAreTheSame();
         onlyWhatStands();
         precinctRange();
@@ -31,13 +35,13 @@ public final class BallotsEdgesTest {
 
     /** The order of the letters as the document tells it, in exact arithmetic that is cut to 32 bits by hand. */
     private static String orderOf(int seed) {
-        java.math.BigInteger all = java.math.BigInteger.ONE.shiftLeft(32);
-        java.math.BigInteger state = java.math.BigInteger.valueOf(seed).mod(all);
+        BigInteger all = BigInteger.ONE.shiftLeft(32);
+        BigInteger state = BigInteger.valueOf(seed).mod(all);
         StringBuilder order = new StringBuilder("abcdefghijklmnopqrstuvwxyz");
         for (int k = 25; k >= 1; k--) {
-            state = state.multiply(java.math.BigInteger.valueOf(1103515245)).add(java.math.BigInteger.valueOf(12345))
+            state = state.multiply(BigInteger.valueOf(1103515245)).add(BigInteger.valueOf(12345))
                     .mod(all);
-            int j = state.shiftRight(8).mod(java.math.BigInteger.valueOf(k + 1)).intValue();
+            int j = state.shiftRight(8).mod(BigInteger.valueOf(k + 1)).intValue();
             char kept = order.charAt(j);
             order.setCharAt(j, order.charAt(k));
             order.setCharAt(k, kept);
@@ -155,11 +159,51 @@ public final class BallotsEdgesTest {
                     listOf(drawn(seed, high + high + high + high, high + high + high + low, high + high + high), 0),
                     "2 1 0");
         }
+    }
+
+    /** The same for letters in places next to each other: what follows them does not matter. */
+    private static void namesWithLettersNextToEachOther() {
+        String order = orderOf(99);
+        String high = order.substring(25);
         for (int k = 1; k < 26; k++) {
-            String order = orderOf(99);
-            Check.same("the places " + (k - 1) + " and " + k,
-                    listOf(drawn(99, order.substring(k, k + 1), order.substring(k - 1, k)), 0), "1 0");
+            String one = order.substring(k - 1, k);
+            String next = order.substring(k, k + 1);
+            Check.same("the places " + (k - 1) + " and " + k, listOf(drawn(99, next, one), 0), "1 0");
+            Check.same("the places " + (k - 1) + " and " + k + ", and one more letter",
+                    listOf(drawn(99, next, one + high), 0), "1 0");
+            Check.same("the places " + (k - 1) + " and " + k + ", and three more letters",
+                    listOf(drawn(99, next, one + high + high + high), 0), "1 0");
+            Check.same("the places " + (k - 1) + " and " + k + " at the end",
+                    listOf(drawn(99, "ab" + next, "ab" + one + high), 0), "1 0");
         }
+    }
+
+    /** "IllegalStateException if the letters have not been drawn": no event but draw draws them. */
+    private static void lettersAfterAllOtherEvents() {
+        Nominator office = new Nominator();
+        office.setCalendar(20, 25, 40);
+        office.addArea(1, 0);
+        office.addArea(1, 0);
+        Offices.addVoters(office, 0, 3);
+        Offices.file(office, 0, 1, "a");
+        Offices.file(office, 0, 2, "b");
+        office.sign(0, 0);
+        office.sign(1, 1);
+        office.pay(0, 5);
+        office.move(2, 1);
+        office.strike(2);
+        office.restore(2);
+        office.withdraw(1);
+        office.die(0);
+        Offices.replace(office, 0, "c");
+        Offices.later(office, 40);
+        office.addVotes(0, 1);
+        office.finish(0);
+        Check.same("letter", Check.outcomeOf(() -> office.letter(0)), "IllegalStateException");
+        Check.same("ballot", Check.outcomeOf(() -> office.ballot(0, 0, 0)), "IllegalStateException");
+        Check.same("placeOnBallot", Check.outcomeOf(() -> office.placeOnBallot(0, 0)), "IllegalStateException");
+        Check.same("draw", office.draw(7), orderOf(7).charAt(0));
+        Check.same("ballot after the draw", office.ballot(0, 0, 0), 0);
     }
 
     /** "papers with the same surname are ordered by their numbers" */
@@ -168,13 +212,8 @@ public final class BallotsEdgesTest {
         Check.same("twelve of one name",
                 listOf(drawn(7, "m", "m", "m", "m", "m", "m", "m", "m", "m", "m", "m", "m"), 0),
                 "0 1 2 3 4 5 6 7 8 9 10 11");
-        Nominator office = new Nominator();
-        office.addArea(1, 0);
-        Offices.addVoters(office, 0, 2);
-        for (int k = 0; k < 2; k++) {
-            Offices.file(office, 0, k, "m" + (char) ('a' + k));
-            office.sign(k, k);
-        }
+        Nominator office = Offices.standing(0, 1);
+        Offices.replace(office, 1, "mb");
         Offices.replace(office, 0, "mb");
         office.pass(21);
         office.draw(7);
@@ -218,7 +257,7 @@ public final class BallotsEdgesTest {
     private static void precinctsGoRound() {
         String[] names = {"m", "m", "m", "m", "m", "m", "m", "m", "m", "m", "m", "m"};
         for (int n : new int[] {1, 2, 3, 7, 11, 12}) {
-            Nominator office = drawn(7, java.util.Arrays.copyOf(names, n));
+            Nominator office = drawn(7, Arrays.copyOf(names, n));
             for (int precinct : new int[] {0, 1, n - 1, n, n + 1, 998, 999}) {
                 StringBuilder due = new StringBuilder();
                 for (int k = 0; k < n; k++) {

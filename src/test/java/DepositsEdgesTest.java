@@ -1,5 +1,3 @@
-import java.util.function.Consumer;
-
 /** The edges of deposits: "Deposits" among the terms, and the promises 41 to 45. Each test tells its sentence. */
 public final class DepositsEdgesTest {
     private static final Class<IndexOutOfBoundsException> NOT_THERE = IndexOutOfBoundsException.class;
@@ -26,11 +24,6 @@ public final class DepositsEdgesTest {
         lostShareOfSome();
         lostShareOfAll();
         Check.end();
-    }
-
-    private static Nominator changed(Nominator office, Consumer<Nominator> change) {
-        change.accept(office);
-        return office;
     }
 
     /** "If the paper was withdrawn while the office was open, it is returned" */
@@ -81,10 +74,10 @@ public final class DepositsEdgesTest {
                 Nominator.HELD, o -> o.deposit(0));
         Check.asks(() -> Offices.later(Offices.dead(Offices.closed(), 0), 5), "on the day after",
                 Nominator.RETURNED, o -> o.deposit(0));
-        Check.asks(() -> Offices.dead(changed(Offices.closed(), o -> replaceTwice(o)), 0), "replaced twice",
+        Check.asks(() -> Offices.dead(Offices.changed(Offices.closed(), o -> replaceTwice(o)), 0), "replaced twice",
                 Nominator.RETURNED, o -> o.deposit(0));
-        Check.asks(() -> changed(Offices.dead(Offices.closed(), 0), o -> Offices.replace(o, 0, "b")), "replaced",
-                Nominator.HELD, o -> o.deposit(0));
+        Check.asks(() -> Offices.changed(Offices.dead(Offices.closed(), 0), o -> Offices.replace(o, 0, "b")),
+                "replaced", Nominator.HELD, o -> o.deposit(0));
         Check.asks(() -> Offices.finished(Offices.pollingDay(Offices.dead(Offices.closed(), 0)), 0),
                 "dead, after the count", Nominator.RETURNED, o -> o.deposit(0));
     }
@@ -100,8 +93,8 @@ public final class DepositsEdgesTest {
     private static void heldUntilTheEnd() {
         Check.asks(Offices::closed, "on the day after the close", Nominator.HELD, o -> o.deposit(0));
         Check.asks(Offices::pollingDay, "on the polling day", Nominator.HELD, o -> o.deposit(0));
-        Check.asks(() -> changed(VotesEdgesTest.voted(100, 0), o -> o.addVotes(0, 1)), "without votes, not finished",
-                Nominator.HELD, o -> o.deposit(1));
+        Check.asks(() -> Offices.changed(VotesEdgesTest.voted(100, 0), o -> o.addVotes(0, 1)),
+                "without votes, not finished", Nominator.HELD, o -> o.deposit(1));
         Check.asks(() -> Offices.finished(Offices.pollingDay(), 1), "another area is finished", Nominator.HELD,
                 o -> o.deposit(0));
         Check.asks(() -> Offices.finished(Offices.pollingDay(), 0), "this area is finished", Nominator.RETURNED,
@@ -175,13 +168,7 @@ public final class DepositsEdgesTest {
 
     /** The paper 0 has all votes, the candidate of the paper 1 is dead; the count is finished. */
     private static Nominator deadAndOutvoted() {
-        Nominator office = new Nominator();
-        office.addArea(1, 0);
-        Offices.addVoters(office, 0, 2);
-        for (int k = 0; k < 2; k++) {
-            Offices.file(office, 0, k, "a");
-            office.sign(k, k);
-        }
+        Nominator office = Offices.standing(0, 1);
         Offices.later(office, 39);
         office.die(1);
         office.pass(1);
@@ -198,7 +185,7 @@ public final class DepositsEdgesTest {
             Check.refuses(Offices::full, "paid(" + k + ")", NOT_THERE, o -> o.paid(k));
         }
         Check.asks(Offices::full, "deposit(11)", Nominator.HELD, o -> o.deposit(11));
-        Check.asks(() -> changed(Offices.full(), o -> o.pay(11, 7)), "paid(11)", 7, o -> o.paid(11));
+        Check.asks(() -> Offices.changed(Offices.full(), o -> o.pay(11, 7)), "paid(11)", 7, o -> o.paid(11));
     }
 
     /** Of paid: "this stays the same when the deposit is returned or lost" */
@@ -230,7 +217,7 @@ public final class DepositsEdgesTest {
         Check.asks(() -> Offices.withdrawn(Offices.closed(), 0), "sumLost, the only one withdrawn", 500,
                 o -> o.sumLost());
         Check.asks(() -> counted(100, 1), "sumLost after the count", 11, o -> o.sumLost());
-        Check.asks(() -> changed(Offices.full(), o -> payForAll(o)), "sumHeld of twelve papers", 78,
+        Check.asks(() -> Offices.changed(Offices.full(), o -> payForAll(o)), "sumHeld of twelve papers", 78,
                 o -> o.sumHeld());
     }
 
@@ -247,7 +234,7 @@ public final class DepositsEdgesTest {
         Check.refuses(Offices::fourPapers, "lostShare, nothing paid", NOTHING_PAID, o -> o.lostShare());
         Check.refuses(() -> Offices.closed(Offices.fourPapers()), "lostShare after the close", NOTHING_PAID,
                 o -> o.lostShare());
-        Check.asks(() -> changed(Offices.fourPapers(), o -> o.pay(2, 1)), "lostShare, 1 paid", 0f,
+        Check.asks(() -> Offices.changed(Offices.fourPapers(), o -> o.pay(2, 1)), "lostShare, 1 paid", 0f,
                 o -> o.lostShare());
     }
 
@@ -262,11 +249,7 @@ public final class DepositsEdgesTest {
 
     /** The same, where all is lost. */
     private static void lostShareOfAll() {
-        Nominator office = new Nominator();
-        office.addArea(1, 7);
-        office.addVoter(0);
-        Offices.file(office, 0, 0, "a");
-        office.sign(0, 0);
+        Nominator office = Offices.standing(0);
         office.pay(0, 7);
         office.pass(21);
         office.withdraw(0);

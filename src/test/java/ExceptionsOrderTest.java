@@ -144,14 +144,8 @@ public final class ExceptionsOrderTest {
         first(Offices::closed, "no name, alive after the close", RANGE, o -> replaceBy(o, 0, ' '));
         first(() -> Offices.dead(Offices.afterChanges(), 0), "no name, after the changes", RANGE,
                 o -> replaceBy(o, 0, ' '));
-        first(ExceptionsOrderTest::replacedTwice, "no name, replaced twice", RANGE, o -> replaceBy(o, 0, ' '));
-    }
-
-    private static Nominator replacedTwice() {
-        Nominator office = Offices.fourPapers();
-        Offices.replace(office, 0, "x");
-        Offices.replace(office, 0, "y");
-        return office;
+        first(() -> Offices.replaced(Offices.fourPapers(), 0, 2), "no name, replaced twice", RANGE,
+                o -> replaceBy(o, 0, ' '));
     }
 
     private static void wouldCount() {

@@ -20,6 +20,8 @@ public final class LifetimeTest {
         replayAsOftenAsCanBe();
         setCalendarAsOftenAsCanBe();
         theLastOfAll();
+        laterCallsDoNotFail();
+        papersAfterTheLastCall();
         Check.end();
     }
 
@@ -157,5 +159,49 @@ public final class LifetimeTest {
         Check.same("ballot", office.ballot(0, 999, 0), 0);
         Check.same("reasonByReplay of the paper 11", office.reasonByReplay(11), Nominator.DEPOSIT_SHORT);
         Check.same("reasonByReplay of the paper 0, the call 512", office.reasonByReplay(0), Nominator.STANDS);
+    }
+
+    /**
+     * "what later calls answer is free", but no call may throw what the machine throws (rule 7 of LANGUAGE.md), which
+     * Check.outcomeOf looks for.
+     */
+    private static void laterCallsDoNotFail() {
+        Nominator office = new Nominator();
+        for (int k = 0; k < 3 * CALLS; k++) {
+            int number = k % 13;
+            Check.outcomeOf(() -> office.addArea(1, 0));
+            Check.outcomeOf(() -> office.addVoter(number % 5));
+            Check.outcomeOf(() -> Offices.file(office, number % 5, number - 1, "a"));
+            Check.outcomeOf(() -> office.sign(number, number));
+            Check.outcomeOf(() -> office.pay(number, 1000));
+            Check.outcomeOf(() -> office.reasonByReplay(number));
+            Check.outcomeOf(() -> office.fewestWithdrawals(number));
+        }
+        Check.same("papers", office.papers(), 12);
+        Check.same("signatures", office.signatures(), 150);
+        Offices.later(office, 40);
+        for (int k = 0; k < 12; k++) {
+            int number = k;
+            Check.outcomeOf(() -> office.draw(number));
+            Check.outcomeOf(() -> office.addVotes(number, 10000));
+            Check.outcomeOf(() -> office.finish(number));
+            Check.outcomeOf(() -> office.winner(number));
+            Check.outcomeOf(() -> office.ballot(number, 999, 0));
+            Check.outcomeOf(() -> office.reasonByReplay(number));
+        }
+        Check.same("day", office.day(), 40);
+    }
+
+    /** Also if what no replay can know any more came after the last event that is written down. */
+    private static void papersAfterTheLastCall() {
+        Nominator office = new Nominator();
+        office.addArea(1, 0);
+        office.addVoter(0);
+        for (int k = 0; k < CALLS; k++) {
+            Check.same("strike and restore", k % 2 == 0 ? office.strike(0) : office.restore(0), k % 2);
+        }
+        Offices.file(office, 0, 1, "a");
+        Check.outcomeOf(() -> office.reasonByReplay(0));
+        Check.same("papers after the last call", office.papers(), 1);
     }
 }

@@ -42,12 +42,23 @@ public final class NumbersTest {
         Check.end();
     }
 
+    /** With the first papers withdrawn, and some voters struck off. */
+    private static Nominator withdrawn() {
+        Nominator office = Offices.full();
+        for (int k = 0; k < 4; k++) {
+            office.withdraw(k);
+            office.strike(k);
+        }
+        return office;
+    }
+
     private static void checkAll(String kind, List<Call> calls, int some, int most) {
         check(kind + " of none", calls, Nominator::new, 0);
         check(kind + " of some", calls, Offices::readyToClose, some);
         check(kind + " of some, closed", calls, Offices::closed, some);
         check(kind + " of some, polling", calls, Offices::pollingDay, some);
         check(kind + " of all", calls, Offices::full, most);
+        check(kind + " of all, withdrawn", calls, NumbersTest::withdrawn, most);
         check(kind + " of all, closed", calls, () -> Offices.closed(Offices.full()), most);
         check(kind + " of all, polling", calls, () -> Offices.pollingDay(Offices.full()), most);
     }

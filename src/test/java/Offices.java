@@ -1,3 +1,5 @@
+import java.util.function.Consumer;
+
 /** Offices for the tests, each made anew by the same calls. */
 final class Offices {
     private Offices() {
@@ -89,6 +91,46 @@ final class Offices {
             int paper = k % 12;
             office.sign(paper, paper % 5 + 5 * (k / 12 % 8));
         }
+        return office;
+    }
+
+    /** One area, which needs one signature and no money: a paper for each party, signed by a voter of its own. */
+    static Nominator standing(int... parties) {
+        Nominator office = new Nominator();
+        office.addArea(1, 0);
+        addVoters(office, 0, parties.length);
+        for (int k = 0; k < parties.length; k++) {
+            file(office, 0, parties[k], "a");
+            office.sign(k, k);
+        }
+        return office;
+    }
+
+    /** With one paper of the party 4, which is acceptable, on this day of a calendar of its own. */
+    static Nominator ofCalendar(int closing, int changes, int polling, int day) {
+        Nominator office = new Nominator();
+        office.setCalendar(closing, changes, polling);
+        office.addArea(1, 0);
+        office.addVoter(0);
+        file(office, 0, 4, "a");
+        office.sign(0, 0);
+        return later(office, day);
+    }
+
+    static Nominator changed(Nominator office, Consumer<Nominator> change) {
+        change.accept(office);
+        return office;
+    }
+
+    static Nominator replaced(Nominator office, int paper, int times) {
+        for (int k = 0; k < times; k++) {
+            replace(office, paper, "x" + (char) ('a' + k));
+        }
+        return office;
+    }
+
+    static Nominator struckOff(Nominator office, int voter) {
+        office.strike(voter);
         return office;
     }
 

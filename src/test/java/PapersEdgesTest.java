@@ -265,19 +265,8 @@ public final class PapersEdgesTest {
         Check.refuses(Offices::closed, "withdraw of a paper with too few signatures", STATE, o -> o.withdraw(1));
         Check.refuses(Offices::closed, "withdraw of a paper without the deposit", STATE, o -> o.withdraw(2));
         Check.answers(Offices::closed, "withdraw of an accepted paper", 0, o -> o.withdraw(0));
-        Check.refuses(() -> Offices.closed(twoOfOneParty()), "withdraw of a double", STATE, o -> o.withdraw(1));
-        Check.answers(() -> Offices.closed(twoOfOneParty()), "withdraw of the first one", 0, o -> o.withdraw(0));
-    }
-
-    private static Nominator twoOfOneParty() {
-        Nominator office = new Nominator();
-        office.addArea(1, 0);
-        Offices.addVoters(office, 0, 2);
-        for (int k = 0; k < 2; k++) {
-            fileOne(office, 0, 4);
-            office.sign(k, k);
-        }
-        return office;
+        Check.refuses(() -> Offices.closed(Offices.standing(4, 4)), "withdraw of a double", STATE, o -> o.withdraw(1));
+        Check.answers(() -> Offices.closed(Offices.standing(4, 4)), "withdraw of the first one", 0, o -> o.withdraw(0));
     }
 
     /** Of withdraw: "or the present day is greater than the last day for changes" */
@@ -285,20 +274,10 @@ public final class PapersEdgesTest {
         Check.answers(Offices::lastDayForChanges, "withdraw on the last day for changes", 0, o -> o.withdraw(0));
         Check.refuses(Offices::afterChanges, "withdraw on the day after", STATE, o -> o.withdraw(0));
         Check.refuses(Offices::pollingDay, "withdraw on the polling day", STATE, o -> o.withdraw(0));
-        Check.answers(() -> closeAndChanges(3), "withdraw on the closing day, the last one for changes", 0,
+        Check.answers(() -> Offices.ofCalendar(3, 3, 4, 3), "withdraw on the closing day, the last one for changes", 0,
                 o -> o.withdraw(0));
-        Check.refuses(() -> closeAndChanges(4), "withdraw on the day after both", STATE, o -> o.withdraw(0));
-    }
-
-    /** The closing day 3 is also the last day for changes; the paper 0 is acceptable. */
-    private static Nominator closeAndChanges(int day) {
-        Nominator office = new Nominator();
-        office.setCalendar(3, 3, 4);
-        office.addArea(1, 0);
-        office.addVoter(0);
-        fileOne(office, 0, 4);
-        office.sign(0, 0);
-        return Offices.later(office, day);
+        Check.refuses(() -> Offices.ofCalendar(3, 3, 4, 4), "withdraw on the day after both", STATE,
+                o -> o.withdraw(0));
     }
 
     /** "Returns the number of signatures of other papers that count after the call and did not count before it." */
@@ -307,11 +286,25 @@ public final class PapersEdgesTest {
         Check.answers(() -> Offices.withdrawn(blocking(), 0), "one that frees the rest", 2, o -> o.withdraw(1));
         Check.answers(PapersEdgesTest::blocking, "one that frees none, though it is signed", 0, o -> o.withdraw(2));
         Check.answers(() -> Offices.closed(blocking()), "one after the close", 0, o -> o.withdraw(0));
-        Check.answers(() -> struckOff(blocking(), 0), "one whose signer is struck off", 1, o -> o.withdraw(0));
+        Check.answers(() -> Offices.struckOff(blocking(), 0), "one whose signer is struck off", 1, o -> o.withdraw(0));
+        Check.answers(() -> oneSigner(11, 0), "the last one frees the first one", 1, o -> o.withdraw(11));
+        Check.answers(() -> oneSigner(0, 11), "the first one frees the last one", 1, o -> o.withdraw(0));
+        Check.answers(() -> oneSigner(0, 11), "the last one frees none", 0, o -> o.withdraw(11));
+        Check.answers(() -> oneSigner(4, 5, 6, 7), "one of many frees one alone", 1, o -> o.withdraw(4));
+        Check.answers(() -> oneSigner(4, 4, 4, 4), "several for the same paper free none", 0, o -> o.withdraw(4));
     }
 
-    private static Nominator struckOff(Nominator office, int voter) {
-        office.strike(voter);
+    /** One voter signs for some of twelve papers, in this order. */
+    private static Nominator oneSigner(int... signed) {
+        Nominator office = new Nominator();
+        office.addArea(1, 0);
+        office.addVoter(0);
+        for (int k = 0; k < 12; k++) {
+            fileOne(office, 0, Nominator.INDEPENDENT);
+        }
+        for (int paper : signed) {
+            office.sign(paper, 0);
+        }
         return office;
     }
 
@@ -351,7 +344,7 @@ public final class PapersEdgesTest {
         Check.refuses(() -> Offices.withdrawn(Offices.closed(), 0), "die, withdrawn late", STATE, o -> o.die(0));
         Check.refuses(Offices::closed, "die, rejected for the signatures", STATE, o -> o.die(1));
         Check.refuses(Offices::closed, "die, rejected for the deposit", STATE, o -> o.die(2));
-        Check.refuses(() -> Offices.closed(twoOfOneParty()), "die, rejected as a double", STATE, o -> o.die(1));
+        Check.refuses(() -> Offices.closed(Offices.standing(4, 4)), "die, rejected as a double", STATE, o -> o.die(1));
         Check.answers(Offices::closingDay, "die, to be rejected tomorrow", true, o -> o.die(1));
         Check.answers(Offices::closed, "die, accepted", true, o -> o.die(0));
     }
@@ -361,8 +354,8 @@ public final class PapersEdgesTest {
         Check.answers(Offices::dayBeforePolling, "die on the day before polling", false, o -> o.die(0));
         Check.refuses(Offices::pollingDay, "die on the polling day", STATE, o -> o.die(0));
         Check.refuses(Offices::lastDay, "die on the last day", STATE, o -> o.die(0));
-        Check.answers(() -> closeAndChanges(3), "die on day 3 of 4", true, o -> o.die(0));
-        Check.refuses(() -> closeAndChanges(4), "die on day 4 of 4", STATE, o -> o.die(0));
+        Check.answers(() -> Offices.ofCalendar(3, 3, 4, 3), "die on day 3 of 4", true, o -> o.die(0));
+        Check.refuses(() -> Offices.ofCalendar(3, 3, 4, 4), "die on day 4 of 4", STATE, o -> o.die(0));
     }
 
     /** "Returns whether the candidate is replaceable after the call." */
@@ -372,15 +365,9 @@ public final class PapersEdgesTest {
         Check.answers(Offices::closed, "die after the close", true, o -> o.die(0));
         Check.answers(Offices::lastDayForChanges, "die on the last day for changes", true, o -> o.die(0));
         Check.answers(Offices::afterChanges, "die on the day after", false, o -> o.die(0));
-        Check.answers(() -> replaced(1), "die after one replacement", true, o -> o.die(0));
-        Check.answers(() -> replaced(2), "die after two replacements", false, o -> o.die(0));
-    }
-
-    private static Nominator replaced(int times) {
-        Nominator office = Offices.fourPapers();
-        for (int k = 0; k < times; k++) {
-            Offices.replace(office, 0, "x");
-        }
-        return office;
+        Check.answers(() -> Offices.replaced(Offices.fourPapers(), 0, 1), "die after one replacement", true,
+                o -> o.die(0));
+        Check.answers(() -> Offices.replaced(Offices.fourPapers(), 0, 2), "die after two replacements", false,
+                o -> o.die(0));
     }
 }

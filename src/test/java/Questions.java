@@ -29,12 +29,17 @@ final class Questions {
         }
     }
 
+    /** All questions that have a meaning in this office. */
+    static List<Function<Nominator, Object>> of(Nominator office) {
+        return new Questions(office).all;
+    }
+
     /** The answers of offices that the recipe makes. */
     static String answersOf(Supplier<Nominator> recipe) {
         StringBuilder text = new StringBuilder();
         Nominator office = recipe.get();
         int calls = 0;
-        for (Function<Nominator, Object> question : new Questions(recipe.get()).all) {
+        for (Function<Nominator, Object> question : of(recipe.get())) {
             if (calls == CALLS_OF_ONE_OFFICE) {
                 office = recipe.get();
                 calls = 0;

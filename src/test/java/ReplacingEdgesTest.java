@@ -1,3 +1,5 @@
+import java.util.function.Supplier;
+
 /** The edges of replacing: "Replacing" among the terms, and the promises 18 and 19. Each test tells its sentence. */
 public final class ReplacingEdgesTest {
     private static final Class<IndexOutOfBoundsException> NOT_THERE = IndexOutOfBoundsException.class;
@@ -21,13 +23,12 @@ public final class ReplacingEdgesTest {
     }
 
     /** Both calls: where isReplaceable is true, replace answers how often it was done; otherwise it is refused. */
-    private static void replaceable(java.util.function.Supplier<Nominator> recipe, String what, int paper,
-            int times) {
+    private static void replaceable(Supplier<Nominator> recipe, String what, int paper, int times) {
         Check.asks(recipe, "isReplaceable, " + what, true, o -> o.isReplaceable(paper));
         Check.answers(recipe, "replace, " + what, times, o -> Offices.replace(o, paper, "new"));
     }
 
-    private static void notReplaceable(java.util.function.Supplier<Nominator> recipe, String what, int paper) {
+    private static void notReplaceable(Supplier<Nominator> recipe, String what, int paper) {
         Check.asks(recipe, "isReplaceable, " + what, false, o -> o.isReplaceable(paper));
         Check.refuses(recipe, "replace, " + what, STATE, o -> Offices.replace(o, paper, "new"));
     }
@@ -63,20 +64,13 @@ public final class ReplacingEdgesTest {
         notReplaceable(Offices::closed, "rejected", 1);
     }
 
-    private static Nominator replaced(Nominator office, int paper, int times) {
-        for (int k = 0; k < times; k++) {
-            Offices.replace(office, paper, "x" + (char) ('a' + k));
-        }
-        return office;
-    }
-
     /** "its candidate has been replaced fewer than 2 times" */
     private static void fewerThanTwoTimes() {
         replaceable(Offices::fourPapers, "not replaced yet", 0, 1);
-        replaceable(() -> replaced(Offices.fourPapers(), 0, 1), "replaced once", 0, 2);
-        notReplaceable(() -> replaced(Offices.fourPapers(), 0, 2), "replaced twice", 0);
-        notReplaceable(() -> Offices.dead(replaced(Offices.fourPapers(), 0, 2), 0), "replaced twice, dead", 0);
-        Nominator office = Offices.dead(replaced(Offices.readyToClose(), 0, 1), 0);
+        replaceable(() -> Offices.replaced(Offices.fourPapers(), 0, 1), "replaced once", 0, 2);
+        notReplaceable(() -> Offices.replaced(Offices.fourPapers(), 0, 2), "replaced twice", 0);
+        notReplaceable(() -> Offices.dead(Offices.replaced(Offices.fourPapers(), 0, 2), 0), "replaced twice, dead", 0);
+        Nominator office = Offices.dead(Offices.replaced(Offices.readyToClose(), 0, 1), 0);
         office.pass(21);
         Check.same("the second time after the close", Offices.replace(office, 0, "y"), 2);
         office.die(0);
@@ -89,21 +83,10 @@ public final class ReplacingEdgesTest {
         replaceable(() -> Offices.later(Offices.dead(Offices.closed(), 0), 4), "the last day for changes", 0, 1);
         notReplaceable(() -> Offices.later(Offices.dead(Offices.closed(), 0), 5), "the day after", 0);
         notReplaceable(() -> Offices.dead(Offices.afterChanges(), 0), "dead after the changes", 0);
-        replaceable(() -> closeAndChanges(3), "the closing day, the last one for changes", 0, 1);
-        notReplaceable(() -> closeAndChanges(4), "the day after both", 0);
+        replaceable(() -> Offices.dead(Offices.ofCalendar(3, 3, 9, 3), 0), "the closing day, the last one for changes",
+                0, 1);
+        notReplaceable(() -> Offices.dead(Offices.ofCalendar(3, 3, 9, 4), 0), "the day after both", 0);
         notReplaceable(() -> Offices.later(Offices.dead(Offices.closed(), 0), 19), "the polling day", 0);
-    }
-
-    /** The closing day 3 is also the last day for changes; the paper 0 is acceptable, its candidate dead. */
-    private static Nominator closeAndChanges(int day) {
-        Nominator office = new Nominator();
-        office.setCalendar(3, 3, 9);
-        office.addArea(1, 0);
-        office.addVoter(0);
-        Offices.file(office, 0, 4, "a");
-        office.sign(0, 0);
-        office.die(0);
-        return Offices.later(office, day);
     }
 
     /** "and the office is open or the candidate is dead" */
@@ -112,7 +95,7 @@ public final class ReplacingEdgesTest {
         notReplaceable(Offices::closed, "alive on the day after", 0);
         replaceable(() -> Offices.dead(Offices.closingDay(), 0), "dead on the closing day", 0, 1);
         replaceable(() -> Offices.dead(Offices.closed(), 0), "dead on the day after", 0, 1);
-        notReplaceable(() -> replaced(Offices.dead(Offices.closed(), 0), 0, 1), "replaced after the close", 0);
+        notReplaceable(() -> Offices.replaced(Offices.dead(Offices.closed(), 0), 0, 1), "replaced after the close", 0);
     }
 
     /** "Replaces the candidate of a paper by another one, who is alive." */

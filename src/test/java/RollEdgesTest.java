@@ -45,11 +45,6 @@ public final class RollEdgesTest {
         return office;
     }
 
-    private static Nominator struckOff(Nominator office, int voter) {
-        office.strike(voter);
-        return office;
-    }
-
     /** "At most 5 areas and 40 voters exist, each numbered from 0." */
     private static void areasAreNumberedFromZero() {
         for (int k = 0; k < 5; k++) {
@@ -128,7 +123,7 @@ public final class RollEdgesTest {
         Check.answers(() -> voters(39), "the fortieth voter", 39, o -> o.addVoter(1));
         Check.refuses(() -> voters(40), "the voter 41", STATE, o -> o.addVoter(1));
         Check.refuses(() -> voters(40), "the voter 41 of another area", STATE, o -> o.addVoter(0));
-        Check.refuses(() -> struckOff(voters(40), 3), "the voter 41 while one is struck off", STATE,
+        Check.refuses(() -> Offices.struckOff(voters(40), 3), "the voter 41 while one is struck off", STATE,
                 o -> o.addVoter(0));
         Check.refuses(Offices::full, "the voter 41 with all there can be", STATE, o -> o.addVoter(4));
     }
@@ -150,7 +145,7 @@ public final class RollEdgesTest {
     private static void newVoterIsOnTheRoll() {
         Check.asks(() -> voters(1), "the first voter", true, o -> o.isOnRoll(0));
         Check.asks(() -> voters(40), "the last voter", true, o -> o.isOnRoll(39));
-        Nominator office = struckOff(voters(1), 0);
+        Nominator office = Offices.struckOff(voters(1), 0);
         office.addVoter(1);
         Check.same("a new voter after one who is struck off", office.isOnRoll(1), true);
         Check.same("the one who is struck off", office.isOnRoll(0), false);
@@ -160,7 +155,7 @@ public final class RollEdgesTest {
     private static void moveToTheSameArea() {
         Check.refuses(Offices::twoAreas, "move(0, 0)", SAME_AREA, o -> o.move(0, 0));
         Check.refuses(Offices::twoAreas, "move(5, 1)", SAME_AREA, o -> o.move(5, 1));
-        Check.refuses(() -> struckOff(Offices.twoAreas(), 5), "move(5, 1) of one struck off", SAME_AREA,
+        Check.refuses(() -> Offices.struckOff(Offices.twoAreas(), 5), "move(5, 1) of one struck off", SAME_AREA,
                 o -> o.move(5, 1));
         Nominator office = Offices.twoAreas();
         Check.same("away", office.move(5, 0), 1);
@@ -170,7 +165,7 @@ public final class RollEdgesTest {
 
     /** "a voter who is struck off can move, too" */
     private static void moveOfOneStruckOff() {
-        Nominator office = struckOff(Offices.twoAreas(), 0);
+        Nominator office = Offices.struckOff(Offices.twoAreas(), 0);
         Check.same("move of one struck off", office.move(0, 1), 0);
         Check.same("the new area", office.areaOf(0), 1);
         Check.same("still struck off", office.isOnRoll(0), false);
@@ -193,8 +188,8 @@ public final class RollEdgesTest {
     /** Of strike: "IllegalStateException if the voter is struck off" */
     private static void strikeOnce() {
         Check.answers(Offices::twoAreas, "strike of one of six", 5, o -> o.strike(2));
-        Check.refuses(() -> struckOff(Offices.twoAreas(), 2), "strike twice", STATE, o -> o.strike(2));
-        Nominator office = struckOff(Offices.twoAreas(), 2);
+        Check.refuses(() -> Offices.struckOff(Offices.twoAreas(), 2), "strike twice", STATE, o -> o.strike(2));
+        Nominator office = Offices.struckOff(Offices.twoAreas(), 2);
         office.restore(2);
         Check.same("strike after a restoration", office.strike(2), 5);
     }
@@ -202,11 +197,12 @@ public final class RollEdgesTest {
     /** Of restore: "IllegalStateException if the voter is on the roll" */
     private static void restoreOnce() {
         Check.refuses(Offices::twoAreas, "restore of a new voter", STATE, o -> o.restore(2));
-        Check.answers(() -> struckOff(Offices.twoAreas(), 2), "restore", 6, o -> o.restore(2));
-        Nominator office = struckOff(Offices.twoAreas(), 2);
+        Check.answers(() -> Offices.struckOff(Offices.twoAreas(), 2), "restore", 6, o -> o.restore(2));
+        Nominator office = Offices.struckOff(Offices.twoAreas(), 2);
         office.restore(2);
         Check.same("restore twice", Check.outcomeOf(() -> office.restore(2)), "IllegalStateException");
-        Check.refuses(() -> struckOff(Offices.twoAreas(), 2), "restore of another voter", STATE, o -> o.restore(3));
+        Check.refuses(() -> Offices.struckOff(Offices.twoAreas(), 2), "restore of another voter", STATE,
+                o -> o.restore(3));
     }
 
     /** "Returns the number of voters on the roll after the call", from all to none and back. */
@@ -219,7 +215,7 @@ public final class RollEdgesTest {
             Check.same("restore(" + (39 - k) + ") of forty", office.restore(39 - k), k + 1);
         }
         Check.answers(() -> voters(1), "strike of the only voter", 0, o -> o.strike(0));
-        Check.answers(() -> struckOff(voters(1), 0), "restore of the only voter", 1, o -> o.restore(0));
+        Check.answers(() -> Offices.struckOff(voters(1), 0), "restore of the only voter", 1, o -> o.restore(0));
     }
 
     /** "Voters can move, be struck off and be restored on any day." */
@@ -235,7 +231,7 @@ public final class RollEdgesTest {
     private static void rollOn(String day, Supplier<Nominator> recipe) {
         Check.answers(recipe, "move on " + day, 0, o -> o.move(0, 1));
         Check.answers(recipe, "strike on " + day, 5, o -> o.strike(0));
-        Check.answers(() -> struckOff(recipe.get(), 0), "restore on " + day, 6, o -> o.restore(0));
+        Check.answers(() -> Offices.struckOff(recipe.get(), 0), "restore on " + day, 6, o -> o.restore(0));
         Check.answers(recipe, "addArea on " + day, 2, o -> o.addArea(1, 0));
         Check.answers(recipe, "addVoter on " + day, 6, o -> o.addVoter(1));
     }
@@ -246,8 +242,8 @@ public final class RollEdgesTest {
         Check.asks(Offices::full, "areaOf(39)", 4, o -> o.areaOf(39));
         Check.refuses(Offices::full, "areaOf(40)", NOT_THERE, o -> o.areaOf(40));
         Check.refuses(Offices::full, "areaOf(-1)", NOT_THERE, o -> o.areaOf(-1));
-        Check.asks(() -> struckOff(Offices.full(), 39), "isOnRoll(39)", false, o -> o.isOnRoll(39));
-        Check.asks(() -> struckOff(Offices.full(), 39), "isOnRoll(38)", true, o -> o.isOnRoll(38));
+        Check.asks(() -> Offices.struckOff(Offices.full(), 39), "isOnRoll(39)", false, o -> o.isOnRoll(39));
+        Check.asks(() -> Offices.struckOff(Offices.full(), 39), "isOnRoll(38)", true, o -> o.isOnRoll(38));
         Check.refuses(Offices::full, "isOnRoll(40)", NOT_THERE, o -> o.isOnRoll(40));
         Check.refuses(Offices::full, "isOnRoll(-1)", NOT_THERE, o -> o.isOnRoll(-1));
         Nominator office = Offices.closed();

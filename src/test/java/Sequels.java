@@ -56,10 +56,12 @@ final class Sequels {
     private void changePapers() {
         for (int k = 0; k < 12; k++) {
             int paper = k;
+            add(() -> office.reason(paper));
             add(() -> office.replace(paper, 'x', ' ', ' ', ' '));
             add(() -> office.replace(paper, 'y', ' ', ' ', ' '));
             add(() -> office.replace(paper, 'z', ' ', ' ', ' '));
             add(() -> office.addVotes(paper, 1));
+            add(() -> office.reason(paper));
             add(() -> office.reasonByReplay(paper));
         }
         for (int k = 0; k < 12; k++) {

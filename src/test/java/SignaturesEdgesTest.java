@@ -1,5 +1,4 @@
 import java.util.NoSuchElementException;
-import java.util.function.Consumer;
 
 /** The edges of signatures: "Signatures" among the terms, and the promises 22 to 28. Each test tells its sentence. */
 public final class SignaturesEdgesTest {
@@ -34,11 +33,6 @@ public final class SignaturesEdgesTest {
         fewestRefuses();
         questionsOfFullOffice();
         Check.end();
-    }
-
-    private static Nominator changed(Nominator office, Consumer<Nominator> change) {
-        change.accept(office);
-        return office;
     }
 
     /** Papers 0 to papers - 1 of independents in the area 0, which needs so many signatures, and voters there. */
@@ -99,7 +93,7 @@ public final class SignaturesEdgesTest {
                 o -> o.signatureResult(0));
         Check.asks(() -> signed(Offices.fourPapers(), 3, 0), "it is not local", Nominator.NOT_LOCAL,
                 o -> o.signatureResult(0));
-        Check.asks(() -> changed(signed(Offices.fourPapers(), 0, 0), o -> o.strike(0)), "its voter is struck off",
+        Check.asks(() -> Offices.struckOff(signed(Offices.fourPapers(), 0, 0), 0), "its voter is struck off",
                 Nominator.STRUCK_OFF, o -> o.signatureResult(0));
         Check.asks(() -> Offices.withdrawn(signed(Offices.fourPapers(), 0, 0), 0), "its paper is withdrawn",
                 Nominator.PAPER_WITHDRAWN, o -> o.signatureResult(0));
@@ -179,19 +173,19 @@ public final class SignaturesEdgesTest {
 
     /** "the first of NOT_LOCAL, STRUCK_OFF, PAPER_WITHDRAWN and SIGNED_EARLIER that applies": each pair of them. */
     private static void firstResultApplies() {
-        Check.asks(() -> changed(signed(Offices.fourPapers(), 3, 0), o -> o.strike(0)), "not local, struck off",
+        Check.asks(() -> Offices.struckOff(signed(Offices.fourPapers(), 3, 0), 0), "not local, struck off",
                 Nominator.NOT_LOCAL, o -> o.signatureResult(0));
         Check.asks(() -> Offices.withdrawn(signed(Offices.fourPapers(), 3, 0), 3), "not local, withdrawn",
                 Nominator.NOT_LOCAL, o -> o.signatureResult(0));
         Check.asks(() -> signed(Offices.fourPapers(), 0, 0, 3, 0), "not local, signed earlier",
                 Nominator.NOT_LOCAL, o -> o.signatureResult(1));
-        Check.asks(() -> changed(Offices.withdrawn(signed(Offices.fourPapers(), 0, 0), 0), o -> o.strike(0)),
+        Check.asks(() -> Offices.struckOff(Offices.withdrawn(signed(Offices.fourPapers(), 0, 0), 0), 0),
                 "struck off, withdrawn", Nominator.STRUCK_OFF, o -> o.signatureResult(0));
-        Check.asks(() -> changed(signed(Offices.fourPapers(), 0, 0, 1, 0), o -> o.strike(0)),
+        Check.asks(() -> Offices.struckOff(signed(Offices.fourPapers(), 0, 0, 1, 0), 0),
                 "struck off, signed earlier", Nominator.STRUCK_OFF, o -> o.signatureResult(1));
         Check.asks(() -> Offices.withdrawn(signed(Offices.fourPapers(), 0, 0, 1, 0), 1),
                 "withdrawn, signed earlier", Nominator.PAPER_WITHDRAWN, o -> o.signatureResult(1));
-        Check.asks(() -> changed(Offices.withdrawn(signed(Offices.fourPapers(), 0, 0, 3, 0), 3), o -> o.strike(0)),
+        Check.asks(() -> Offices.struckOff(Offices.withdrawn(signed(Offices.fourPapers(), 0, 0, 3, 0), 3), 0),
                 "all four", Nominator.NOT_LOCAL, o -> o.signatureResult(1));
     }
 
@@ -225,7 +219,7 @@ public final class SignaturesEdgesTest {
                 Check.same("wouldCount(" + paper + ", " + voter + ")", would, counts);
             }
         }
-        Check.asks(() -> changed(Offices.fourPapers(), o -> o.strike(0)), "one who is struck off", false,
+        Check.asks(() -> Offices.struckOff(Offices.fourPapers(), 0), "one who is struck off", false,
                 o -> o.wouldCount(0, 0));
         Check.asks(Offices::fourPapers, "one of this area", true, o -> o.wouldCount(0, 0));
         Check.asks(Offices::fourPapers, "one of another area", false, o -> o.wouldCount(3, 0));
@@ -277,7 +271,7 @@ public final class SignaturesEdgesTest {
         Check.refuses(Offices::readyToClose, "paperOf(6)", NOT_THERE, o -> o.paperOf(6));
         Check.refuses(() -> signed(Offices.fourPapers(), 3, 0), "paperOf one whose signature is not local", NONE,
                 o -> o.paperOf(0));
-        Check.refuses(() -> changed(Offices.readyToClose(), o -> o.strike(0)), "paperOf one struck off", NONE,
+        Check.refuses(() -> Offices.struckOff(Offices.readyToClose(), 0), "paperOf one struck off", NONE,
                 o -> o.paperOf(0));
         Check.refuses(() -> Offices.withdrawn(Offices.readyToClose(), 0), "paperOf one of a withdrawn paper", NONE,
                 o -> o.paperOf(0));
@@ -393,7 +387,7 @@ public final class SignaturesEdgesTest {
         Check.refuses(Offices::fourPapers, "no signatures", NONE, o -> o.fewestWithdrawals(0));
         Check.refuses(() -> signed(oneArea(2, 2, 2), 1, 0, 1, 0), "the same voter twice", NONE,
                 o -> o.fewestWithdrawals(1));
-        Check.refuses(() -> changed(signed(oneArea(2, 2, 2), 0, 0, 1, 0, 1, 1), o -> o.strike(1)),
+        Check.refuses(() -> Offices.struckOff(signed(oneArea(2, 2, 2), 0, 0, 1, 0, 1, 1), 1),
                 "a voter who is struck off", NONE, o -> o.fewestWithdrawals(1));
         Check.refuses(() -> signed(Offices.fourPapers(), 0, 0, 0, 4), "a signature that is not local", NONE,
                 o -> o.fewestWithdrawals(0));

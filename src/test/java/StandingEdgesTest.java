@@ -1,4 +1,3 @@
-import java.util.function.Consumer;
 import java.util.function.Supplier;
 
 /**
@@ -36,11 +35,10 @@ public final class StandingEdgesTest {
     private static void due(Supplier<Nominator> recipe, String what, int paper, int reason) {
         Check.asks(recipe, "reason, " + what, reason, o -> o.reason(paper));
         Check.asks(recipe, "reasonByReplay, " + what, reason, o -> o.reasonByReplay(paper));
-    }
-
-    private static Nominator changed(Nominator office, Consumer<Nominator> change) {
-        change.accept(office);
-        return office;
+        Nominator office = recipe.get();
+        for (int k = 1; k <= 3; k++) {
+            Check.same("reasonByReplay, time " + k + ", " + what, office.reasonByReplay(paper), reason);
+        }
     }
 
     /** One area, one paper of the party 2, for which that is paid, and as many voters have signed. */
@@ -76,9 +74,9 @@ public final class StandingEdgesTest {
         due(() -> paidAndSigned(10, 0, 9), "9 of 10", 0, Nominator.TOO_FEW_SIGNATURES);
         due(() -> paidAndSigned(10, 0, 10), "10 of 10", 0, Nominator.STANDS);
         due(() -> paidAndSigned(10, 0, 40), "40 of 10", 0, Nominator.STANDS);
-        due(() -> changed(paidAndSigned(10, 0, 10), o -> o.strike(9)), "10 of 10, one struck off", 0,
+        due(() -> Offices.struckOff(paidAndSigned(10, 0, 10), 9), "10 of 10, one struck off", 0,
                 Nominator.TOO_FEW_SIGNATURES);
-        due(() -> changed(paidAndSigned(10, 0, 9), o -> o.sign(0, 0)), "10 of 10, but one twice", 0,
+        due(() -> Offices.changed(paidAndSigned(10, 0, 9), o -> o.sign(0, 0)), "10 of 10, but one twice", 0,
                 Nominator.TOO_FEW_SIGNATURES);
     }
 
@@ -110,19 +108,19 @@ public final class StandingEdgesTest {
     private static void doubleOfALowerNumberAlone() {
         due(() -> standing(0, 3, 0, 3), "the lower one", 0, Nominator.STANDS);
         due(() -> standing(0, 3, 0, 3), "the higher one", 1, Nominator.DOUBLE);
-        due(() -> changed(standing(0, 3, 0, 3), o -> o.die(0)), "the lower one, dead", 0, Nominator.DEAD);
+        due(() -> Offices.changed(standing(0, 3, 0, 3), o -> o.die(0)), "the lower one, dead", 0, Nominator.DEAD);
     }
 
     /** "is acceptable": a double is not, nor is a paper without signatures; one with a dead candidate is. */
     private static void doubleOfAnAcceptableOneAlone() {
         due(() -> standing(0, 3, 0, 3, 0, 3), "the third of three", 2, Nominator.DOUBLE);
-        due(() -> changed(standing(0, 3, 0, 3, 0, 3), o -> o.strike(0)), "the second, the first is short", 1,
+        due(() -> Offices.struckOff(standing(0, 3, 0, 3, 0, 3), 0), "the second, the first is short", 1,
                 Nominator.STANDS);
-        due(() -> changed(standing(0, 3, 0, 3, 0, 3), o -> o.strike(0)), "the third, the first is short", 2,
+        due(() -> Offices.struckOff(standing(0, 3, 0, 3, 0, 3), 0), "the third, the first is short", 2,
                 Nominator.DOUBLE);
         due(() -> Offices.withdrawn(standing(0, 3, 0, 3), 0), "the first is withdrawn", 1, Nominator.STANDS);
         due(() -> Offices.dead(standing(0, 3, 0, 3), 0), "the candidate of the first is dead", 1, Nominator.DOUBLE);
-        due(() -> changed(standing(0, 3, 0, 3), o -> o.strike(1)), "the second is short, too", 1,
+        due(() -> Offices.struckOff(standing(0, 3, 0, 3), 1), "the second is short, too", 1,
                 Nominator.TOO_FEW_SIGNATURES);
     }
 
@@ -138,19 +136,20 @@ public final class StandingEdgesTest {
 
     /** "the papers that are acceptable are accepted, and the others that are not withdrawn are rejected. ... final" */
     private static void acceptanceIsFinal() {
-        due(() -> changed(Offices.closed(), o -> o.strike(0)), "accepted, a signer struck off", 0,
+        due(() -> Offices.struckOff(Offices.closed(), 0), "accepted, a signer struck off", 0,
                 Nominator.STANDS);
-        due(() -> changed(Offices.closed(), o -> o.move(0, 1)), "accepted, a signer moved", 0, Nominator.STANDS);
+        due(() -> Offices.changed(Offices.closed(), o -> o.move(0, 1)), "accepted, a signer moved", 0,
+                Nominator.STANDS);
         due(() -> Offices.withdrawn(Offices.closed(standing(0, 3, 0, 3)), 0), "a double, the first is withdrawn", 1,
                 Nominator.DOUBLE);
         due(() -> Offices.dead(Offices.closed(standing(0, 3, 0, 3)), 0), "a double, the first is dead", 1,
                 Nominator.DOUBLE);
         due(() -> Offices.later(Offices.closed(), 30), "rejected, a month later", 1, Nominator.TOO_FEW_SIGNATURES);
-        Supplier<Nominator> struckOff = () -> changed(Offices.closed(changed(Offices.readyToClose(),
-                o -> o.strike(1))), o -> o.restore(1));
-        due(struckOff, "rejected, a signer restored", 0, Nominator.TOO_FEW_SIGNATURES);
+        Supplier<Nominator> struckOff = () -> Offices.closed(Offices.struckOff(Offices.readyToClose(), 1));
+        due(() -> Offices.changed(struckOff.get(), o -> o.restore(1)), "rejected, a signer restored", 0,
+                Nominator.TOO_FEW_SIGNATURES);
         due(() -> Offices.later(Offices.readyToClose(), 20), "acceptable on the closing day", 0, Nominator.STANDS);
-        due(() -> changed(Offices.closingDay(), o -> o.strike(1)), "struck off on the closing day", 0,
+        due(() -> Offices.struckOff(Offices.closingDay(), 1), "struck off on the closing day", 0,
                 Nominator.TOO_FEW_SIGNATURES);
     }
 
@@ -167,7 +166,7 @@ public final class StandingEdgesTest {
         due(Offices::readyToClose, "acceptable and alive", 0, Nominator.STANDS);
         due(() -> Offices.dead(Offices.readyToClose(), 0), "acceptable and dead", 0, Nominator.DEAD);
         due(Offices::readyToClose, "not acceptable and alive", 1, Nominator.TOO_FEW_SIGNATURES);
-        due(() -> changed(Offices.dead(Offices.readyToClose(), 0), o -> Offices.replace(o, 0, "b")),
+        due(() -> Offices.changed(Offices.dead(Offices.readyToClose(), 0), o -> Offices.replace(o, 0, "b")),
                 "acceptable and replaced", 0, Nominator.STANDS);
     }
 
@@ -177,7 +176,7 @@ public final class StandingEdgesTest {
         due(() -> Offices.dead(Offices.closed(), 0), "accepted and dead", 0, Nominator.DEAD);
         due(() -> Offices.closed(Offices.dead(Offices.readyToClose(), 0)), "dead and then accepted", 0,
                 Nominator.DEAD);
-        due(() -> changed(Offices.dead(Offices.closed(), 0), o -> Offices.replace(o, 0, "b")),
+        due(() -> Offices.changed(Offices.dead(Offices.closed(), 0), o -> Offices.replace(o, 0, "b")),
                 "accepted and replaced", 0, Nominator.STANDS);
         due(() -> Offices.withdrawn(Offices.closed(), 0), "accepted and withdrawn", 0, Nominator.WITHDRAWN);
         due(Offices::closed, "rejected", 1, Nominator.TOO_FEW_SIGNATURES);
@@ -198,9 +197,9 @@ public final class StandingEdgesTest {
 
     /** "the first of WITHDRAWN, DEPOSIT_SHORT, TOO_FEW_SIGNATURES, DOUBLE and DEAD that applies": each pair. */
     private static void firstReasonWhileOpen() {
-        Supplier<Nominator> paid = () -> changed(allFaults(), o -> o.pay(1, 5));
-        Supplier<Nominator> signed = () -> changed(allFaults(), o -> o.sign(1, 1));
-        Supplier<Nominator> both = () -> changed(paid.get(), o -> o.sign(1, 1));
+        Supplier<Nominator> paid = () -> Offices.changed(allFaults(), o -> o.pay(1, 5));
+        Supplier<Nominator> signed = () -> Offices.changed(allFaults(), o -> o.sign(1, 1));
+        Supplier<Nominator> both = () -> Offices.changed(paid.get(), o -> o.sign(1, 1));
         due(() -> Offices.withdrawn(allFaults(), 1), "withdrawn and all others", 1, Nominator.WITHDRAWN);
         due(() -> Offices.withdrawn(both.get(), 1), "withdrawn and dead", 1, Nominator.WITHDRAWN);
         due(StandingEdgesTest::allFaults, "short, too few, dead", 1, Nominator.DEPOSIT_SHORT);
@@ -210,7 +209,7 @@ public final class StandingEdgesTest {
         due(() -> Offices.withdrawn(paid.get(), 0), "too few and dead", 1, Nominator.TOO_FEW_SIGNATURES);
         due(both, "double and dead", 1, Nominator.DOUBLE);
         due(() -> Offices.withdrawn(both.get(), 0), "dead alone", 1, Nominator.DEAD);
-        due(() -> changed(Offices.withdrawn(both.get(), 0), o -> Offices.replace(o, 1, "c")), "nothing", 1,
+        due(() -> Offices.changed(Offices.withdrawn(both.get(), 0), o -> Offices.replace(o, 1, "c")), "nothing", 1,
                 Nominator.STANDS);
     }
 
@@ -218,9 +217,9 @@ public final class StandingEdgesTest {
     private static void firstReasonAfterTheClose() {
         due(() -> Offices.closed(Offices.withdrawn(allFaults(), 1)), "withdrawn before", 1, Nominator.WITHDRAWN);
         due(() -> Offices.closed(allFaults()), "all faults", 1, Nominator.DEPOSIT_SHORT);
-        due(() -> Offices.closed(changed(allFaults(), o -> o.pay(1, 5))), "too few, double, dead", 1,
-                Nominator.TOO_FEW_SIGNATURES);
-        Supplier<Nominator> both = () -> changed(changed(allFaults(), o -> o.pay(1, 5)), o -> o.sign(1, 1));
+        Supplier<Nominator> paid = () -> Offices.changed(allFaults(), o -> o.pay(1, 5));
+        Supplier<Nominator> both = () -> Offices.changed(paid.get(), o -> o.sign(1, 1));
+        due(() -> Offices.closed(paid.get()), "too few, double, dead", 1, Nominator.TOO_FEW_SIGNATURES);
         due(() -> Offices.closed(both.get()), "double and dead", 1, Nominator.DOUBLE);
         due(() -> Offices.closed(Offices.withdrawn(both.get(), 0)), "dead alone", 1, Nominator.DEAD);
         due(() -> Offices.withdrawn(Offices.closed(Offices.withdrawn(both.get(), 0)), 1), "dead, withdrawn late", 1,

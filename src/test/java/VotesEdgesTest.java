@@ -83,19 +83,8 @@ public final class VotesEdgesTest {
         Check.refuses(Offices::dayBeforePolling, "addVotes on the day before", STATE, o -> o.addVotes(0, 1));
         Check.answers(Offices::pollingDay, "addVotes on the polling day", 1, o -> o.addVotes(0, 1));
         Check.answers(Offices::lastDay, "addVotes on the last day", 1, o -> o.addVotes(0, 1));
-        Check.refuses(() -> shortCalendar(1), "addVotes on day 1 of 2", STATE, o -> o.addVotes(0, 1));
-        Check.answers(() -> shortCalendar(2), "addVotes on day 2 of 2", 1, o -> o.addVotes(0, 1));
-    }
-
-    /** The polling day is 2. */
-    private static Nominator shortCalendar(int day) {
-        Nominator office = new Nominator();
-        office.setCalendar(0, 1, 2);
-        office.addArea(1, 0);
-        office.addVoter(0);
-        Offices.file(office, 0, 3, "a");
-        office.sign(0, 0);
-        return Offices.later(office, day);
+        Check.refuses(() -> Offices.ofCalendar(0, 1, 2, 1), "addVotes on day 1 of 2", STATE, o -> o.addVotes(0, 1));
+        Check.answers(() -> Offices.ofCalendar(0, 1, 2, 2), "addVotes on day 2 of 2", 1, o -> o.addVotes(0, 1));
     }
 
     /** Of addVotes: "the paper does not stand" */
@@ -143,8 +132,8 @@ public final class VotesEdgesTest {
         Check.refuses(Offices::dayBeforePolling, "finish on the day before", STATE, o -> o.finish(0));
         Check.answers(Offices::pollingDay, "finish on the polling day", 0, o -> o.finish(0));
         Check.answers(Offices::lastDay, "finish on the last day", 0, o -> o.finish(0));
-        Check.refuses(() -> shortCalendar(1), "finish on day 1 of 2", STATE, o -> o.finish(0));
-        Check.answers(() -> shortCalendar(2), "finish on day 2 of 2", 0, o -> o.finish(0));
+        Check.refuses(() -> Offices.ofCalendar(0, 1, 2, 1), "finish on day 1 of 2", STATE, o -> o.finish(0));
+        Check.answers(() -> Offices.ofCalendar(0, 1, 2, 2), "finish on day 2 of 2", 0, o -> o.finish(0));
     }
 
     /** Of finish: "or the counting is finished" */
@@ -169,17 +158,12 @@ public final class VotesEdgesTest {
         Check.answers(() -> voted(94, 6), "6 of 100", 0, o -> o.finish(0));
         Check.answers(() -> voted(1, 0), "0 of 1", 1, o -> o.finish(0));
         Check.answers(() -> voted(1, 0, 0, 0, 0, 0, 0, 0, 0, 0, 0, 0), "eleven times 0 of 1", 11, o -> o.finish(0));
+        Check.answers(() -> voted(0, 1), "0 of 1, the first one", 1, o -> o.finish(0));
         Check.answers(() -> voted(20, 1), "1 of 21", 1, o -> o.finish(0));
         Check.answers(() -> voted(19, 1), "1 of 20", 0, o -> o.finish(0));
         Check.answers(() -> voted(1900000, 100000), "100000 of 2000000", 0, o -> o.finish(0));
         Check.answers(() -> voted(1900001, 100000), "100000 of 2000001", 1, o -> o.finish(0));
-        Nominator office = new Nominator();
-        office.addArea(1, 0);
-        Offices.addVoters(office, 0, 3);
-        for (int k = 0; k < 3; k++) {
-            Offices.file(office, 0, k, "a");
-            office.sign(k, k);
-        }
+        Nominator office = Offices.standing(0, 1, 2);
         office.pass(21);
         office.withdraw(1);
         office.die(2);
@@ -196,6 +180,11 @@ public final class VotesEdgesTest {
         Check.asks(() -> voted(1, 0, 20000), "votes(1)", 0, o -> o.votes(1));
         Check.asks(() -> voted(1, 0, 20000), "votes(2)", 20000, o -> o.votes(2));
         Check.asks(() -> Offices.finished(voted(1, 0, 20000), 0), "votes after the end", 20000, o -> o.votes(2));
+        Nominator replaced = Offices.dead(Offices.closed(), 0);
+        Offices.replace(replaced, 0, "new");
+        Check.same("votes of a new candidate", replaced.votes(0), 0);
+        Offices.later(replaced, 19);
+        Check.same("the first vote of a new candidate", replaced.addVotes(0, 1), 1);
         Check.refuses(() -> voted(1), "votes(-1)", NOT_THERE, o -> o.votes(-1));
         Check.refuses(() -> voted(1), "votes(1) of one", NOT_THERE, o -> o.votes(1));
         Check.refuses(Nominator::new, "votes in a new office", NOT_THERE, o -> o.votes(0));
@@ -249,21 +238,9 @@ public final class VotesEdgesTest {
         Check.asks(() -> Offices.finished(voted(0, 0, 0), 0), "no votes at all", 0, o -> o.winner(0));
         Check.asks(() -> Offices.finished(voted(0, 0, 0, 0, 0, 0, 0, 0, 0, 0, 0, 1), 0), "the paper 11", 11,
                 o -> o.winner(0));
-        Nominator office = Offices.pollingDay(Offices.withdrawn(Offices.later(polled(), 21), 0));
+        Nominator office = Offices.pollingDay(Offices.withdrawn(Offices.later(Offices.standing(0, 1), 21), 0));
         office.finish(0);
         Check.same("the lowest number does not stand", office.winner(0), 1);
-    }
-
-    /** Two papers that are acceptable on day 0. */
-    private static Nominator polled() {
-        Nominator office = new Nominator();
-        office.addArea(1, 0);
-        Offices.addVoters(office, 0, 2);
-        for (int k = 0; k < 2; k++) {
-            Offices.file(office, 0, k, "a");
-            office.sign(k, k);
-        }
-        return office;
     }
 
     /** Of winner: "IllegalStateException if the counting in the area is not finished" */
