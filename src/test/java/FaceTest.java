@@ -28,6 +28,7 @@ public final class FaceTest {
         constants(face);
         methods(face);
         nothingElse();
+        sizes();
         text(Files.readString(SOURCE));
         Check.end();
     }
@@ -119,9 +120,34 @@ public final class FaceTest {
     }
 
     private static void staticFieldsAreConstants() {
-        for (Field field : Nominator.class.getDeclaredFields()) {
+        constantsAlone(Nominator.class);
+        for (Class<?> inside : Nominator.class.getDeclaredClasses()) {
+            constantsAlone(inside);
+        }
+    }
+
+    private static void constantsAlone(Class<?> type) {
+        for (Field field : type.getDeclaredFields()) {
             if (Modifier.isStatic(field.getModifiers())) {
                 Check.same(field + " is final", Modifier.isFinal(field.getModifiers()), true);
+                Check.same(field + " is a number", field.getType().isPrimitive(), true);
+            }
+        }
+    }
+
+    /** Rule 11 of LANGUAGE.md. */
+    private static void sizes() {
+        Set<Class<?>> classes = new HashSet<>(Set.of(Nominator.class.getDeclaredClasses()));
+        classes.add(Nominator.class);
+        Check.same("more than 12 classes", classes.size() > 12, false);
+        for (Class<?> type : classes) {
+            int fields = 0;
+            for (Field field : type.getDeclaredFields()) {
+                fields += Modifier.isStatic(field.getModifiers()) ? 0 : 1;
+            }
+            Check.same(type + " has more than 20 fields", fields > 20, false);
+            for (Method method : type.getDeclaredMethods()) {
+                Check.same(method + " has more than 7 parameters", method.getParameterCount() > 7, false);
             }
         }
     }
