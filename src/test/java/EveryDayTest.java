@@ -1,8 +1,9 @@
 import java.util.function.Function;
 
 /**
- * What holds on each of the days 0 to 99, and which events are possible on it, in calendars with days next to each other
- * and far apart: "Calendar", "Standing", "Replacing" and "Deposits" among the terms, and the calls that ask for a day.
+ * What holds on each of the days 0 to 99, and which events are possible on it, in calendars with days next to each
+ * other and far apart: "Calendar", "Standing", "Replacing" and "Deposits" among the terms, and the calls that ask for a
+ * day.
  */
 public final class EveryDayTest {
     private static final int LAST_DAY = 99;

@@ -51,8 +51,8 @@ public final class RefusedCallsTest {
     }
 
     /**
-     * The papers 0 (party 1) and 5 (party 2, area 1) are acceptable, 1 is a double of 0, 2 is withdrawn, the candidate of
-     * 3 (party 4), which is acceptable but for its signatures, is dead, 4 is replaced once and short of money.
+     * The papers 0 (party 1) and 5 (party 2, area 1) are acceptable, 1 is a double of 0, 2 is withdrawn, the candidate
+     * of 3 (party 4), which is acceptable but for its signatures, is dead, 4 is replaced once and short of money.
      */
     private static Nominator busy() {
         Nominator office = Offices.twoAreas();
@@ -62,7 +62,8 @@ public final class RefusedCallsTest {
             office.pay(paper, paper == 4 ? 499 : 500);
         }
         Offices.file(office, 1, 2, "pz");
-        int[][] signed = {{2, 0}, {0, 0}, {0, 1}, {1, 2}, {1, 3}, {3, 1}, {3, 6}, {0, 6}, {4, 7}, {4, 8}, {5, 4}, {0, 5}};
+        int[][] signed = {{2, 0}, {0, 0}, {0, 1}, {1, 2}, {1, 3}, {3, 1}, {3, 6}, {0, 6}, {4, 7}, {4, 8}, {5, 4},
+            {0, 5}};
         for (int[] one : signed) {
             office.sign(one[0], one[1]);
         }

@@ -265,7 +265,7 @@ public final class SeveralAreasTest {
         Check.same("wouldCount in the old area, both withdrawn", office.wouldCount(1, 0), false);
     }
 
-    /** "how many more signatures of a paper would count", "the smallest set ...": also of signers who are elsewhere now. */
+    /** "how many more signatures of a paper would count", "the smallest set": also of signers who are elsewhere now. */
     private static void gainFromSignersWhoMoved() {
         Nominator office = twoByTwo();
         office.sign(0, 0);

@@ -13,6 +13,7 @@ public final class SeveralOfficesTest {
         takeTurns("the second one later", storyOf(2, 7), delayed(storyOf(2, 9), 23));
         takeTurns("the first one later", delayed(storyOf(3, 1), 57), storyOf(1, 2));
         newOnesAreEmpty();
+        lettersOfEachOffice();
         Check.end();
     }
 
@@ -123,5 +124,45 @@ public final class SeveralOfficesTest {
         Check.same("papers of the full one", full.papers(), 12);
         Check.same("signatures of the full one", full.signatures(), 150);
         Check.same("its last voter", full.areaOf(39), 4);
+    }
+
+    /** "The letters are drawn once": those of one office do not order the names in another one. */
+    private static void lettersOfEachOffice() {
+        int[] seeds = {7, -5, 1000};
+        Nominator[] offices = new Nominator[seeds.length];
+        String[] due = new String[seeds.length];
+        for (int k = 0; k < seeds.length; k++) {
+            due[k] = lettersAndNames(drawn(seeds[k]));
+            offices[k] = drawn(seeds[k]);
+        }
+        for (int k = 0; k < seeds.length; k++) {
+            Check.same("letters and names of the seed " + seeds[k], lettersAndNames(offices[k]), due[k]);
+            Check.same("they differ from the next ones", due[k].equals(due[(k + 1) % seeds.length]), false);
+        }
+    }
+
+    /** Twelve papers stand, with names from a to l. */
+    private static Nominator drawn(int seed) {
+        Nominator office = new Nominator();
+        office.addArea(1, 0);
+        for (int k = 0; k < 12; k++) {
+            office.addVoter(0);
+            Offices.file(office, 0, Nominator.INDEPENDENT, "" + (char) ('a' + k));
+            office.sign(k, k);
+        }
+        office.pass(21);
+        office.draw(seed);
+        return office;
+    }
+
+    private static String lettersAndNames(Nominator office) {
+        StringBuilder text = new StringBuilder();
+        for (int k = 0; k < 26; k++) {
+            text.append(office.letter(k));
+        }
+        for (int k = 0; k < 12; k++) {
+            text.append(' ').append(office.ballot(0, 0, k));
+        }
+        return text.toString();
     }
 }
